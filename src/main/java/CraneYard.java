@@ -570,7 +570,8 @@ public final class CraneYard {
         }
 
         private boolean isShown(int word, int[] lids, int shown) {
-            for (int from = 0; from + lengths[word] <= shown; from++) {
+            int lastStart = shown - lengths[word];
+            for (int from = 0; from <= lastStart; from++) {
                 if (isShownFrom(from, word, lids)) {
                     return true;
                 }

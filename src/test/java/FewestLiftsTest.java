@@ -1,3 +1,6 @@
+import java.util.ArrayList;
+import java.util.List;
+
 /** Promise 11: the fewest lifts for some crates by all orders. */
 public final class FewestLiftsTest {
     private static final Check CHECK = new Check();
@@ -5,6 +8,7 @@ public final class FewestLiftsTest {
     public static void main(String[] args) {
         oneCrateTakesItsDig();
         theBestOrderCounts();
+        everyOrderIsTried();
         dugCratesAreGone();
         anOrderThatFailsDoesNotCount();
         noOrderAtAll();
@@ -30,6 +34,21 @@ public final class FewestLiftsTest {
         CHECK.same("four without the top", yard.fewestLifts(0b01111), 5);
         CraneYard wide = Yards.with(0, 1, 2, 3);
         CHECK.same("four tops", wide.fewestLifts(0b1111), 4);
+    }
+
+    /** Only from the top down do four crates in one stack take four lifts, whatever their numbers. */
+    private static void everyOrderIsTried() {
+        for (int order = 0; order < 24; order++) {
+            CraneYard yard = Yards.with(0, 1, 2, 3);
+            List<Integer> left = new ArrayList<>(List.of(0, 1, 2, 3));
+            int digits = order;
+            for (int size = 4; size > 0; size--) {
+                yard.dig(left.remove(digits % size));
+                yard.drop(5);
+                digits /= size;
+            }
+            CHECK.same("order " + order, yard.fewestLifts(0b1111), 4);
+        }
     }
 
     private static void dugCratesAreGone() {
@@ -105,6 +124,8 @@ public final class FewestLiftsTest {
         yard.lift(4);
         yard.load();
         CHECK.outOfRange("a crate that is gone", () -> yard.fewestLifts(1 << 4));
+        yard.lift(0);
+        CHECK.outOfRange("the crate 0 on the crane", () -> yard.fewestLifts(0b11));
         CraneYard full = new CraneYard();
         for (int crate = 0; crate < 30; crate++) {
             full.arrive(10, 0, crate % 6);

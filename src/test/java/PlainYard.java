@@ -225,7 +225,8 @@ final class PlainYard {
         return fewest(stacks, wanted);
     }
 
-    int tell(int... letters) {
+    int tell(int first, int second, int third, int fourth) {
+        int[] letters = {first, second, third, fourth};
         StringBuilder word = new StringBuilder();
         for (int i = 0; i < 4; i++) {
             argument(within(letters[i], i < 2 ? 0 : -1, 25));
@@ -240,9 +241,9 @@ final class PlainYard {
         return words.size() - 1;
     }
 
-    int hasPaid(int word) {
+    boolean hasPaid(int word) {
         of(words, word);
-        return paid.contains(word) ? 1 : 0;
+        return paid.contains(word);
     }
 
     int bonus() {
@@ -270,12 +271,11 @@ final class PlainYard {
         return hauls.size() - 1;
     }
 
-    int bid(int number, int haulier, int price) {
+    void bid(int number, int haulier, int price) {
         Haul haul = of(hauls, number);
         argument(within(haulier, 0, 3) && within(price, 1, 1000));
         state(haul.state == 0 && !haul.bids.containsKey(haulier));
         haul.bids.put(haulier, price);
-        return 0;
     }
 
     int give(int number) {
