@@ -6,10 +6,33 @@ final class Yards {
     /** A yard in which crates of weight 10 and letter 0 have arrived on the stacks named, in this order. */
     static CraneYard with(int... stacks) {
         CraneYard yard = new CraneYard();
+        arrive(yard, 10, 0, stacks);
+        return yard;
+    }
+
+    /** Lets crates of one weight and letter arrive on the stacks named, in this order. */
+    static void arrive(CraneYard yard, int weight, int letter, int... stacks) {
         for (int stack : stacks) {
-            yard.arrive(10, 0, stack);
+            yard.arrive(weight, letter, stack);
+        }
+    }
+
+    /** A yard in which crates of weight 10 and letter 0 have arrived, so many on each of the stacks 0, 1, ... */
+    static CraneYard high(int... heights) {
+        CraneYard yard = new CraneYard();
+        for (int stack = 0; stack < heights.length; stack++) {
+            for (int place = 0; place < heights[stack]; place++) {
+                yard.arrive(10, 0, stack);
+            }
         }
         return yard;
+    }
+
+    /** Lets days pass until it is a day, hundred by hundred. */
+    static void passUntil(CraneYard yard, int day) {
+        while (yard.today() < day) {
+            yard.pass(Math.min(100, day - yard.today()));
+        }
     }
 
     /** A yard in which one crate of weight 10 for each letter has arrived, on the stacks 0, 1, ... */
