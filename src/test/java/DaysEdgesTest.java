@@ -144,19 +144,22 @@ public final class DaysEdgesTest {
         CHECK.same("each four high", Yards.high(4, 4, 4, 4, 4, 4).storm(), 6);
     }
 
-    /** "then the next day begins, which is no storm day, unless it was told" */
+    /** "then the next day begins, which is no storm day, unless it was told": on any day, and behind any pass. */
     private static void aStormEndsWithItsDay() {
-        for (int days : new int[] {1, 2, 100}) {
-            CraneYard yard = Yards.high(3);
-            yard.storm();
-            CHECK.wrongState("a fourth on the storm day", () -> yard.arrive(10, 0, 0));
-            yard.pass(days);
-            CHECK.same("a fourth behind it", yard.arrive(10, 0, 0), 3);
-            CHECK.same("told for that day too", yard.storm(), 1);
-            CHECK.wrongState("a fifth on the next storm day", () -> yard.arrive(10, 0, 0));
-            yard.pass(1);
-            CHECK.same("a fifth behind it", yard.arrive(10, 0, 0), 4);
-            CHECK.wrongState("never a sixth", () -> yard.arrive(10, 0, 0));
+        for (int today : new int[] {0, 1, 99, 100, 9899}) {
+            for (int days : new int[] {1, 2, 100}) {
+                CraneYard yard = Yards.high(3);
+                Yards.passUntil(yard, today);
+                yard.storm();
+                CHECK.wrongState("a fourth on the storm day", () -> yard.arrive(10, 0, 0));
+                yard.pass(days);
+                CHECK.same("a fourth behind it", yard.arrive(10, 0, 0), 3);
+                CHECK.same("told for that day too", yard.storm(), 1);
+                CHECK.wrongState("a fifth on the next storm day", () -> yard.arrive(10, 0, 0));
+                yard.pass(1);
+                CHECK.same("a fifth behind it", yard.arrive(10, 0, 0), 4);
+                CHECK.wrongState("never a sixth", () -> yard.arrive(10, 0, 0));
+            }
         }
     }
 
