@@ -330,7 +330,7 @@ public final class CraneYard {
         int shown = 0;
         for (int stack = 0; stack < STACKS; stack++) {
             int top = stacks.topOf(stack);
-            if (top >= 0 && top < MOST_CRATES) {
+            if (top >= 0 && top < MOST_CRATES && shown < STACKS) {
                 lids[shown] = letters[top];
                 shown++;
             }
@@ -570,7 +570,7 @@ public final class CraneYard {
         }
 
         private boolean isShown(int word, int[] lids, int shown) {
-            int lastStart = shown - lengths[word];
+            int lastStart = Math.min(shown, lids.length) - lengths[word];
             for (int from = 0; from <= lastStart; from++) {
                 if (isShownFrom(from, word, lids)) {
                     return true;
